@@ -175,6 +175,10 @@ public final class PromiseTest {
     // STUCK, some number being too large: THE TABLE stays as it is then
     run(11, BIG + "solve 0 = 2 | solve 12 = -6 | count 3 = 7 | judge 0 0 = -3");
     run(11, BIGGER + "solve 0 = -6 | count 4 = 4 | count 2 = 5 | count 3 = 0 | solve 12 = -6 | count 3 = 0");
+    // a number of 1000000000 is not too large, one of 1000000001 is; BASE alone, a RIGHT alone
+    run(11, problem(new int[] {99, 96, 8, 60, 15}, EDGE) + "solve 0 = 2 | count 4 = 5 | entry -1 5 = 1000000000 | entry -1 6 = 7385");
+    run(11, problem(new int[] {76, 70, 4, 98, 65}, EDGE) + "solve 0 = -6 | count 4 = 4");
+    run(11, RIGHT_STUCK + "solve 12 = -6");
     // STUCK by 60 PIVOTS
     run(11, SIXTY + "solve 12 = -6 | count 4 = 60");
 
@@ -222,6 +226,9 @@ public final class PromiseTest {
     run(17, DEEP + "solve 12 = 2 | weight 3 22 0 = 37 | weight 3 22 1 = 56 | weight 3 23 0 = NO | weight 3 20 1 = 1 | weight 3 14 0 = NO | "
         + "weight 3 13 0 = 0 | weight 3 13 1 = 1 | weight 12 10 0 = NO | weight 11 30 0 = 107 | weight 11 30 1 = 112 | weight 11 31 0 = NO");
 
+    // WEIGHTS of an earlier TABLE are no more
+    run(17, DEEP + "solve 12 = 2 | less = 3 | less = 2 | solve 1 = 2 | weight 0 10 1 = 31 | weight 0 11 1 = 31 | size 5 = 5 | rule 0 1 = 0 | factor 0 0 2 = 100 | "
+        + "rule 0 0 = 1 | solve 1 = 1 | weight 0 10 0 = 1 | weight 0 10 1 = 2 | weight 0 11 0 = 0 | weight 0 11 1 = 1 | proved 0 = 1");
     run(18, SMALL + "proved 0 = -1 | solve 0 = 2 | proved 0 = -1 | solve 1 = 1 | proved 0 = 1 | proved 1 = -1 | proved -1 = -1 | "
         + "cost 0 3 = 3 | proved 0 = -1");
     run(18, DEEP + "solve 12 = 2 | proved 0 = 1 | proved 1 = 1 | proved 11 = 1 | proved 12 = -1");
@@ -247,10 +254,15 @@ public final class PromiseTest {
     // 0 costs: by CODES alone
     run(24, "cost 0 0 = 1 | cost 1 0 = 1 | nth 0 = 0 | nth 1 = 1 | nth 5 = 10 | nth 19 = 34");
     run(24, "size 5 = 2 | box 6 = 4 | cost 4 0 = 1 | nth 0 = 0 | nth 6 = 6 | nth 7 = 10 | nth 19 = 105");
+    run(24, "size 4 = 2 | box 1 = 4 | cost 0 0 = 1 | cost 1 9 = 1 | cost 2 3 = 1 | cost 3 2 = 1 | nth 1 = 1000 | nth 2 = 1 | nth 3 = 1001 | nth 4 = 10 | "
+        + "nth 5 = 1010 | nth 6 = 11 | nth 8 = 100 | nth 15 = 1111 | nth 16 = -5");
+    run(24, "size 5 = 2 | box 1 = 4 | rule 0 1 = 0 | factor 0 0 1 = 100 | nth 0 = 10000 | nth 1 = 10001 | rule 0 1 = 1 | factor 1 1 1 = 100 | nth 0 = 11000");
     run(25, SMALL + "many 0 = 8 | many 1 = 17 | many 2 = -1 | many -1 = -1 | rule 0 9 = 2 | many 0 = 0 | many 1 = 8 | box 6 = 4 | many 1 = 14");
     run(26, SMALL + "breaks 0 = 0 | breaks 21 = -5 | breaks 99 = 1 | breaks 3 = 1 | breaks 100 = -2 | breaks -1 = -2 | breaks 92 = -5 | "
         + "breaks 40 = -5 | breaks 30 = 0 | size 1 = 2 | breaks 9 = -5 | breaks 10 = -2 | size 5 = 1 | breaks 99999 = -5 | breaks 100000 = -2 | "
         + "rule 1 8 = 0 | factor 0 4 1 = 100 | breaks 99999 = 0 | breaks 99998 = -5 | rule 0 9 = 1 | factor 1 0 1 = 100 | breaks 8 = 1");
+    run(26, "size 4 = 2 | rule 1 3 = 0 | factor 0 0 1 = 100 | rule 1 4 = 1 | factor 1 1 1 = 100 | rule 1 5 = 2 | factor 2 2 1 = 100 | rule 1 6 = 3 | "
+        + "factor 3 3 1 = 100 | breaks 3456 = -5 | breaks 3457 = 3 | breaks 3466 = 2 | breaks 3556 = 1 | breaks 4456 = 0 | breaks 9999 = 0 | breaks 10000 = -2");
     // a CUT loses no MIX that OBEYS, and one by HAND doesn't either: HANDS are 0 or more, and what is rounded is rounded down
     run(27, SMALL + "lost 0 = -1 | solve 1 = 1 | lost 0 = -5 | lost 1 = -1 | lost -2 = -1 | lost -1 = -5 | hand 0 1 = 0 | lost -1 = -5 | "
         + "by 2 = 1 | lost -1 = -5 | cost 0 3 = 3 | lost 0 = -1 | lost -1 = -5");
@@ -262,6 +274,12 @@ public final class PromiseTest {
     run(28, SMALL + "branch 0 = 10 | branch 1 = 5 | branch 2 = 2 | branch 3 = 11 | branch 4 = 2 | branch 5 = 1 | branch 6 = -1 | "
         + "value 0 = NO | solve 0 = 2 | branch 0 = 10 | value 0 = 19 | bound 1 -1 = 1002 | branch 0 = -5 | branch 1 = 1 | branch 2 = -5 | "
         + "branch 3 = 2 | branch 4 = -5 | branch 6 = -1");
+    run(28, "size 1 = 2 | cost 0 3 = 1 | rule 0 4 = 0 | factor 0 0 2 = 100 | branch 0 = 6 | branch 1 = 1 | branch 2 = 0 | branch 3 = 1 | branch 4 = 2");
+    // of like VALUES the least number; of like RISES the LEFTS of LEASTS by their PACKS, then those of MOSTS
+    run(28, EVEN + "branch 0 = 11 | branch 1 = 21 | branch 2 = 3 | branch 3 = 59");
+    run(28, LEASTS + "branch 0 = 7 | branch 1 = 29 | branch 3 = 142");
+    run(28, MOSTS + "branch 0 = -6 | branch 1 = 40 | branch 3 = 148");
+    run(28, NO_LEAST + "branch 0 = 7 | branch 1 = 15 | branch 3 = 63");
     run(28, HALF + "branch 0 = -5 | branch 1 = 3 | branch 3 = 4 | branch 2 = -5 | branch 4 = -5");
     run(28, DEEP + "branch 0 = 192 | branch 1 = 25 | branch 2 = 3 | branch 3 = 132 | branch 4 = 0 | branch 8 = 1 | branch 9 = -1");
     run(28, FORTY + "branch 0 = -6 | branch 1 = 40 | branch 2 = -6 | branch 3 = 88 | branch 4 = -6 | branch 7 = -1");
@@ -283,6 +301,7 @@ public final class PromiseTest {
         + "see 1 1 = 3 | fits 0 0 = 0 | fits 0 1 = -5 | ruleOf 0 1 = 1001");
     run(31, "rule 0 1 = 0 | factor 0 0 9 = 100 | see 0 5 = 1 | fits 0 0 = 2 | fits 0 1 = 40 | see -1 0 = 0 | see 0 2 = 1 | fits 0 0 = 2 | fits 0 1 = 10");
 
+    run(31, "size 1 = 2 | rule 0 1 = 0 | factor 0 0 2 = 100 | rule 1 3 = 1 | factor 1 0 1 = 100 | fits 0 0 = 2 | see 0 0 = 1 | fits 0 0 = 1 | fits 0 1 = 0");
     run(32, SMALL + "odds 0 7 4 11 0 = 1 | odds 0 7 4 11 1 = 2 | odds 0 7 4 10 0 = 1 | odds 0 7 4 10 1 = 4 | odds 0 7 4 9 0 = 0 | odds 0 7 4 9 1 = 1 | "
         + "odds 0 7 4 -1 0 = NO | odds 0 7 4 0 0 = 0 | odds 0 7 0 5 0 = NO | odds 0 7 9 5 0 = NO | odds 0 7 8 5 2 = NO | odds 0 7 8 5 -1 = NO | "
         + "odds 2 7 4 5 0 = NO | odds -1 7 4 5 0 = NO | odds 0 -100 4 5 0 = NO | odds 0 1000 1 5 0 = NO | odds 0 999 1 5 1 = 1 | odds 0 999 2 5 0 = NO | "
@@ -294,6 +313,8 @@ public final class PromiseTest {
 
     run(34, "drawn 1 0 = -2 | drawn 1 5 = -2 | drawn 1 -1 = -2 | cost 0 99 = 1 | rule 0 1 = 0 | drawn 1 4 = 6 | drawn 2 4 = 2091 | drawn -9 1 = 7 | "
         + "count 1 = 1 | ruleOf 0 1 = 1001 | drawn LOW 4 = 42 | drawn HIGH 2 = 7");
+    run(34, "cost 0 99 = 1 | rule 1 0 = 0 | rule 1 0 = 1 | rule 1 -1 = 2 | rule 1 0 = 3 | rule 1 0 = 4 | rule 1 -5 = 5 | rule 1 0 = 6 | rule 1 -9 = 7 | "
+        + "drawn 1 4 = 6 | drawn 2 4 = 2091 | drawn -9 1 = 7 | count 1 = 8 | ruleOf 0 0 = 1001");
   }
 
   private static void offersAndPlans() throws Exception {
@@ -307,6 +328,9 @@ public final class PromiseTest {
         + "offered 0 0 = 1 | offered 1 0 = 12 | offered 2 0 = 21 | offered 3 0 = 30 | offered 0 1 = 7 | offered 2 1 = 5 | offered 0 2 = 3 | "
         + "offered 3 2 = 9 | offered 4 0 = -2 | offered -1 0 = -2 | offered 0 3 = -1 | offered 0 -1 = -1 | offered 9 3 = -1");
 
+    run(36, "size 5 = 2 | cost 0 99 = 1 | cost 1 98 = 1 | cost 2 97 = 1 | cost 3 96 = 1 | cost 4 95 = 1 | offer 99999 1 = -5 | offer 98765 2 = -5 | "
+        + "offer 10000 3 = -5 | offer 1000 4 = -5 | offer 100 5 = -5 | offered 0 0 = 100 | offered 0 2 = 97 | offered 1 2 = 98 | offered 2 2 = 99 | "
+        + "offered 3 0 = 98765 | offered 3 2 = 3405 | offered 4 2 = 4365");
     run(37, "upTo 5 = -5 | offer 12 6 = -5 | offer 21 6 = -5 | offer 1 7 = -5 | offer 44 1 = -5 | upTo 0 = -5 | upTo 1 = 1 | upTo 2 = 1 | upTo 3 = 21 | "
         + "upTo 7 = 21 | upTo 8 = 44 | upTo HIGH = 44 | upTo LOW = -5");
 
@@ -318,6 +342,8 @@ public final class PromiseTest {
         + "plan 1 0 -1 = -2 | plan 2 0 10 = -2 | plan 2 0 -10 = -2 | plan 0 2 1000 = -1 | plan 0 0 1 = 5 | plan 0 0 1 = 6 | plan 0 0 1 = 7 | plan 0 0 1 = 8 | "
         + "plan 0 0 1 = -4 | plan 0 0 1000 = -2 | count 6 = 8 | solve 0 = 2 | plan -1 99 9999 = 0 | count 6 = 0 | value 0 = 19 | plan 0 0 1 = 1");
 
+    run(39, "rule 0 0 = 0 | rule 0 0 = 1 | rule 0 0 = 2 | plan 0 2 5 = 1 | plan 2 2 5 = 2 | plan 1 2 5 = -1 | plan 1 1 5 = 3 | plan 0 3 5 = -1 | plan 2 3 5 = -1 | "
+        + "size 5 = 2 | rule 0 0 = 0 | plan 1 4 5 = 1 | plan 0 1 5 = -1 | plan 2 1 5 = -1 | plan 1 5 5 = -1");
     run(40, "ends = 0 | cost 0 3 = 1 | cost 1 4 = 1 | rule 0 7 = 0 | factor 0 0 2 = 100 | factor 0 1 3 = 100 | rule 1 2 = 1 | factor 1 1 1 = 100 | "
         + "ends = 10 | plan 0 0 8 = 1 | ends = 11 | plan 1 1 0 = 2 | ends = 3 | plan 2 0 1 = 3 | ends = 6 | plan 0 0 7 = 4 | ends = 3 | plan 0 1 -1 = 5 | "
         + "ends = -5 | less = 1 | ends = 0 | count 6 = 5 | ruleOf 0 1 = 1007 | less = 0 | ends = 0 | rule 0 0 = 0 | ends = 21 | solve 0 = 1 | ends = 21 | "
@@ -342,6 +368,9 @@ public final class PromiseTest {
         + "count 7 = 2 | count 8 = 3 | count 9 = 3 | peek 0 1 = 4 | ruleOf 0 0 = 1000 | ruleOf 0 1 = 1007 | ruleOf 0 4 = 1002 | ruleOf 1 0 = 1001 | "
         + "offered 0 0 = 1 | offered 1 0 = 11 | offered 0 1 = 6 | offered 0 2 = 9 | offered 1 1 = 5 | offered 1 2 = 10 | ends = 27 | fits 0 0 = 0 | by 7 = 7 | hand 0 5 = 5 | hand 1 6 = 6 | cost 2 9 = 9 | "
         + "rule 0 0 = 2 | hand 2 0 = 0 | see -1 0 = 0 | plan -1 0 0 = 0 | undo = 2 | undo = 2 | count 7 = 2 | count 5 = 1 | count 6 = 1 | count 1 = 2");
+    run(43, "rule 0 7 = 0 | factor 0 0 2 = 100 | factor 0 1 1 = 100 | rule 1 2 = 1 | factor 1 0 1 = 100 | cost 1 9 = 1 | see 0 2 = 1 | see 1 16 = 2 | plan 0 0 9 = 1 | "
+        + "plan 1 0 5 = 2 | plan 2 1 0 = 3 | ends = 25 | fits 0 0 = 1 | fits 0 1 = 20 | image = 2 | see -1 0 = 0 | plan -1 0 0 = 0 | see 1 5 = 1 | see 0 1 = 2 | "
+        + "plan 1 1 1 = 1 | plan 0 1 1 = 2 | plan 1 0 1 = 3 | undo = 2 | ends = 25 | fits 0 0 = 1 | fits 0 1 = 20");
     // what comes behind THE IMAGE leaves it
     run(43, filled + "image = 2 | bound 0 9 = 1007 | factor 0 0 9 = 100 | hand 0 1 = 5 | offer 11 8 = 5 | offer 0 1 = -5 | see 1 1 = 2 | plan 0 0 6 = 2 | less = 1 | "
         + "undo = 2 | ruleOf 0 1 = 1007 | ruleOf 0 2 = 1000 | offered 1 1 = 5 | hand 0 5 = 5 | hand 1 6 = 6 | count 6 = 1 | count 5 = 1 | bound 0 9 = 1007 | undo = 2 | "
@@ -405,6 +434,20 @@ public final class PromiseTest {
   private static final String FIRST_OF_TWO_STUCK = problem(new int[] {84, 83, 55, 99, 99}, new int[][] {
       {0, 805, 8, 1, 6, -6, 2}, {1, 692, -5, -8, 3, 4, 0}, {0, 37, 0, 0, 3, -5, -1}, {0, 205, 2, 9, -9, 7, -3},
       {0, 469, 2, -7, -8, -1, 6}, {0, 181, 7, -5, 6, -1, -6}, {0, 975, -4, 6, 9, -8, -4}});
+  private static final int[][] EDGE = {
+      {0, 704, 1, 5, -8, 2, 9}, {0, 950, -3, 0, -2, 7, -4}, {0, 756, -7, 4, 9, 0, -6}, {0, 538, 2, -6, 9, -4, -3},
+      {0, 577, 3, 1, 0, -3, 1}};
+  private static final String RIGHT_STUCK = problem(new int[] {3, 1, 1, 1, 3}, new int[][] {
+      {0, 950, 4, -4, 6, -4, 1}, {0, 382, -9, 6, -5, 5, 8}, {0, 404, 9, -4, -5, 4, 9}, {0, 65, 1, -3, 2, 1, -7},
+      {1, 630, 0, -8, 6, 1, 7}, {0, 917, 8, 9, 5, 9, -9}});
+  private static final String EVEN = problem(new int[] {3, 2, 2}, new int[][] {
+      {0, 18, 6, 6, 0}, {0, 10, 9, 3, 9}, {0, 28, 8, 5, 5}});
+  private static final String LEASTS = problem(new int[] {1, 3, 2, 3, 3}, new int[][] {
+      {0, 10, 8, 2, 7, 2, 4}, {0, 11, 1, 7, 2, 6, 4}, {1, 19, 9, 4, 3, 0, 9}});
+  private static final String MOSTS = problem(new int[] {1, 1, 1, 1, 1}, new int[][] {
+      {0, 22, 0, 3, 3, 3, 3}, {0, 17, 1, 2, 2, 3, 1}});
+  private static final String NO_LEAST = problem(new int[] {3, 3, 2, 1}, new int[][] {
+      {0, 7, 9, 8, 8, 0}, {0, 15, 9, 6, 4, 5}, {0, 29, 3, 4, 0, 7}, {0, 12, 3, 8, 6, 5}});
   private static final String SIXTY = problem(new int[] {0, 0, 0, 0, 0}, new int[][] {
       {0, 11, 7, 7, 7, -1, 3}, {0, 16, 9, 0, -9, 4, 6}, {0, 9, 1, -8, 6, 4, 8}, {0, 26, -9, 2, -1, -9, 4},
       {0, 23, 5, -2, 2, 7, 6}});

@@ -70,7 +70,39 @@ public final class RandomRunsTest {
     return low + below(high - low + 1);
   }
 
+  /** Five packs, many rules with factors of both signs, far bounds: numbers grow, and some runs are stuck. */
+  boolean buildFar() {
+    int n = below(4) == 0 ? 4 : 5;
+    boolean dear = below(4) > 0;
+    boolean ok = call("size", n);
+    for (int p = 0; p < n && ok; p++) ok = call("cost", p, dear ? below(100) : below(3));
+    int rules = 5 + below(4);
+    int high = below(2) == 0 ? 1000 : 100;
+    for (int r = 0; r < rules && ok; r++) {
+      ok = call("rule", below(6) == 0 ? 1 : 0, below(high));
+      for (int p = 0; p < n && ok; p++) ok = call("factor", r, p, below(3) == 0 ? below(19) - 9 : below(10));
+    }
+    return ok;
+  }
+
+  /** Few rules, and costs alike: many ties. */
+  boolean buildEven() {
+    int n = 2 + below(3);
+    boolean ok = call("size", n);
+    int cost = 1 + below(3);
+    for (int p = 0; p < n && ok; p++) ok = call("cost", p, cost);
+    int rules = 1 + below(4);
+    for (int r = 0; r < rules && ok; r++) {
+      int factor = 2 + below(3);
+      ok = call("rule", below(4) == 0 ? 1 : 0, 1 + below(20));
+      for (int p = 0; p < n && ok; p++) ok = call("factor", r, p, below(3) > 0 ? factor : below(4));
+    }
+    return ok;
+  }
+
   boolean build(int heaviness) {
+    if (heaviness == 3) return buildFar();
+    if (heaviness == 4) return buildEven();
     int n = 1 + below(5);
     boolean ok = call("size", n);
     for (int p = 0; p < n && ok; p++) if (below(3) > 0) ok = call("cost", p, below(heaviness == 0 ? 10 : 100));
@@ -166,7 +198,8 @@ public final class RandomRunsTest {
       case 31: return below(2) > 0 || call("odds", about(0, m), about(-99, 999), about(1, 8), about(0, 300), about(0, 1));
       case 32: return call("mean", about(0, 1));
       case 33: return call("drawn", random.nextInt(), about(1, 4));
-      case 34: case 35: return call("offer", about(0, below(2) == 0 ? top : 9), about(0, 999));
+      case 34: return call("offer", about(0, below(2) == 0 ? top : 9), about(0, 999));
+      case 35: return offerMany(top);
       case 36: return call("offered", about(0, o.count(7)), about(0, 2));
       case 37: return call("upTo", about(0, 300));
       case 38: return call("dearest");
@@ -178,6 +211,14 @@ public final class RandomRunsTest {
       case 44: return call("count", about(0, 9));
       default: return onTapes();
     }
+  }
+
+  boolean offerMany(int top) {
+    boolean ok = true;
+    int more = below(6) == 0 ? 22 : 3;
+    for (int k = 0; k < more && ok; k++) ok = call("offer", below(top + 1), below(60));
+    for (int k = 0; k < oracle.count(7) && ok; k++) ok = call("offered", k, below(3));
+    return ok && call("upTo", below(200)) && call("dearest");
   }
 
   /** A tape with the due amounts, but for at most one. */
@@ -194,20 +235,30 @@ public final class RandomRunsTest {
   }
 
   boolean onTapes() {
-    switch (below(6)) {
-      case 0: case 1: return call("tape", about(0, 5), about(-1, 4), about(0, 60));
-      case 2: return call("item", about(0, 5), about(0, 59), random.nextLong());
-      case 3: return call("peek", about(0, 5), about(0, 59));
-      default: return call("shift", about(0, 5), about(0, 20), about(0, 5), about(0, 20), about(0, 20));
+    int tape = about(0, 5);
+    int other = about(0, 5);
+    switch (below(7)) {
+      case 0: return call("tape", tape, about(-1, 4), about(0, 60));
+      case 1: return call("item", tape, about(0, 59), random.nextLong());
+      case 2: return call("peek", tape, about(0, 59));
+      case 3: return call("shift", tape, about(0, 20), other, about(0, 20), about(0, 20));
+      default: return shiftSome(tape, other, below(5), 4 + below(20));
     }
+  }
+
+  boolean shiftSome(int tape, int other, int sort, int n) {
+    boolean ok = call("tape", tape, sort, n) && call("tape", other, sort, n);
+    for (int k = 0; k < 6 && ok; k++) ok = call("item", tape, below(n), random.nextLong()) && call("item", other, below(n), random.nextLong());
+    ok = ok && call("shift", tape, about(0, n / 2), other, about(0, n / 2), about(0, n / 2));
+    for (int k = 0; k < n && ok; k++) ok = call("peek", other, k) && call("peek", tape, k);
+    return ok;
   }
 
   void run() {
     boolean ok = true;
-    int kind = below(3);
     while (ok && told.size() < 512) {
-      ok = build(kind);
-      if (ok && below(3) == 0) ok = feedText();
+      ok = build(below(5));
+      if (ok && below(2) == 0) ok = call("read") && feedText();
       if (ok && below(4) > 0) ok = call("solve", below(3) == 0 ? below(13) : 12) && look();
       if (ok && below(2) == 0) ok = call("branch", 0) && call("branch", 1) && call("branch", 2) && call("branch", 3);
       int more = 20 + below(150);
@@ -216,7 +267,7 @@ public final class RandomRunsTest {
   }
 
   public static void main(String[] args) {
-    int runs = args.length > 0 ? Integer.parseInt(args[0]) : 150;
+    int runs = args.length > 0 ? Integer.parseInt(args[0]) : 400;
     long first = args.length > 1 ? Long.parseLong(args[1]) : 1;
     for (int r = 0; r < runs && wrong < 3; r++) new RandomRunsTest(first + r).run();
     if (args.length > 2) ANSWERS.forEach((k, v) -> System.out.println(k + " " + v));
