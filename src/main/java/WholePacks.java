@@ -30,7 +30,7 @@ public final class WholePacks {
   private final State now = new State();
   private final State kept = new State();
   private final Packs thought = new Packs();
-  private final Solution table = new Solution();
+  private final Solution solved = new Solution();
   private final Solution trial = new Solution();
   private final Tree tree = new Tree();
   private final Walk walk = new Walk(now.packs);
@@ -129,35 +129,35 @@ public final class WholePacks {
   public int solve(int k) {
     if (k < 0 || k > CUTS) return BAD;
     tabled = true;
-    return table.work(now.packs, k);
+    return solved.work(now.packs, k);
   }
 
   public long entry(int row, int column) {
     int n = now.packs.number;
-    if (!tabled || row < -2 || row >= table.table.rows || column < 0 || column > n + 1) return NO;
-    if (row == -2) return column < n ? table.table.columnOwners[column] : NO;
-    if (row == -1) return table.table.costNumber(column);
-    return table.table.rowNumber(row, column);
+    if (!tabled || row < -2 || row >= solved.table.rows || column < 0 || column > n + 1) return NO;
+    if (row == -2) return column < n ? solved.table.columnOwners[column] : NO;
+    if (row == -1) return solved.table.costNumber(column);
+    return solved.table.rowNumber(row, column);
   }
 
   public long amount(int pack, int part) {
     if (!tabled || !isPack(pack) || !isPart(part)) return NO;
-    return lowest(table.table.rightOf(pack), table.table.divisor, part);
+    return lowest(solved.table.rightOf(pack), solved.table.divisor, part);
   }
 
   public long value(int part) {
     if (!tabled || !isPart(part)) return NO;
-    return lowest(table.table.base, table.table.divisor, part);
+    return lowest(solved.table.base, solved.table.divisor, part);
   }
 
   public long price(int rule, int part) {
     if (!tabled || !isRule(rule) || !isPart(part)) return NO;
-    return lowest(table.table.riseOf(RULE_OWNER + rule), table.table.divisor, part);
+    return lowest(solved.table.riseOf(RULE_OWNER + rule), solved.table.divisor, part);
   }
 
   public long cut(int cut, int pack) {
     if (!isCut(cut) || pack < 0 || pack > now.packs.number) return NO;
-    return table.cuts.formOf(cut, pack);
+    return solved.cuts.formOf(cut, pack);
   }
 
   public long weight(int cut, int left, int part) {
@@ -165,12 +165,12 @@ public final class WholePacks {
     boolean ofRule = left >= RULE_OWNER && left < RULE_OWNER + now.packs.rules;
     boolean ofEarlierCut = left >= CUT_OWNER && left < CUT_OWNER + cut;
     if (!ofRule && !ofEarlierCut) return NO;
-    return lowest(table.cuts.weightOf(cut, left), table.cuts.divisors[cut], part);
+    return lowest(solved.cuts.weightOf(cut, left), solved.cuts.divisors[cut], part);
   }
 
   public int proved(int cut) {
     if (!isCut(cut)) return NONE;
-    return table.cuts.isProved(cut, now.packs) ? 1 : 0;
+    return solved.cuts.isProved(cut, now.packs) ? 1 : 0;
   }
 
   // ---- cuts by hand
@@ -199,8 +199,8 @@ public final class WholePacks {
     if (!tabled) return STATE;
     int n = now.packs.number;
     long sum = 0;
-    for (int pack = 0; pack < n; pack++) sum += now.handForm(pack) * table.table.rightOf(pack);
-    return sum > now.handForm(n) * table.table.divisor ? 1 : 0;
+    for (int pack = 0; pack < n; pack++) sum += now.handForm(pack) * solved.table.rightOf(pack);
+    return sum > now.handForm(n) * solved.table.divisor ? 1 : 0;
   }
 
   // ---- the box
@@ -242,7 +242,7 @@ public final class WholePacks {
   public int lost(int cut) {
     if (cut != -1 && !isCut(cut)) return NONE;
     for (int place = 0; place <= now.packs.number; place++) {
-      asked[place] = cut == -1 ? now.handForm(place) : table.cuts.formOf(cut, place);
+      asked[place] = cut == -1 ? now.handForm(place) : solved.cuts.formOf(cut, place);
     }
     walk.start(now.box);
     for (int left = walk.mixes; left > 0; left--) {
@@ -390,12 +390,12 @@ public final class WholePacks {
   public int judge(int tape, int i) {
     if (!isTape(tape)) return NONE;
     if (tapes.sorts[tape] != INTS && tapes.sorts[tape] != EMPTY) return CAST;
-    if (!tabled || table.state != WHOLE) return STATE;
+    if (!tabled || solved.state != WHOLE) return STATE;
     int items = tapes.sorts[tape] == EMPTY || i < 0 || i > tapes.lengths[tape]
         ? 0 : tapes.lengths[tape] - i;
     for (int pack = 0; pack < now.packs.number; pack++) {
       if (pack >= items) return 100 + pack;
-      if (tapes.cells[tape][i + pack] != table.table.floorOf(pack)) return pack;
+      if (tapes.cells[tape][i + pack] != solved.table.floorOf(pack)) return pack;
     }
     return NONE_SUCH;
   }
@@ -417,9 +417,9 @@ public final class WholePacks {
     switch (what) {
       case 0: return now.packs.number;
       case 1: return now.packs.rules;
-      case 2: return tabled ? table.table.rows : 0;
-      case 3: return tabled ? table.cuts.number : 0;
-      case 4: return tabled ? table.table.pivots : 0;
+      case 2: return tabled ? solved.table.rows : 0;
+      case 3: return tabled ? solved.cuts.number : 0;
+      case 4: return tabled ? solved.table.pivots : 0;
       case 5: return now.seen;
       case 6: return now.planned;
       case 7: return now.offers.number;
@@ -471,7 +471,7 @@ public final class WholePacks {
   }
 
   private boolean isCut(int cut) {
-    return tabled && cut >= 0 && cut < table.cuts.number;
+    return tabled && cut >= 0 && cut < solved.cuts.number;
   }
 
   private boolean isCode(int code) {
@@ -1303,6 +1303,7 @@ public final class WholePacks {
         case SHORTS: return (short) v;
         case INTS: return (int) v;
         case BOOLEANS: return v != 0 ? 1 : 0;
+        case LONGS:
         default: return v;
       }
     }

@@ -228,7 +228,8 @@ public final class PromiseTest {
 
     // WEIGHTS of an earlier TABLE are no more
     run(17, DEEP + "solve 12 = 2 | less = 3 | less = 2 | solve 1 = 2 | weight 0 10 1 = 31 | weight 0 11 1 = 31 | size 5 = 5 | rule 0 1 = 0 | factor 0 0 2 = 100 | "
-        + "rule 0 0 = 1 | solve 1 = 1 | weight 0 10 0 = 1 | weight 0 10 1 = 2 | weight 0 11 0 = 0 | weight 0 11 1 = 1 | proved 0 = 1");
+        + "rule 0 0 = 1 | solve 1 = 1 | weight 0 10 0 = 1 | weight 0 10 1 = 2 | weight 0 11 0 = 0 | weight 0 11 1 = 1 | proved 0 = 1 | "
+        + "factor 0 0 0 = 102 | bound 0 0 = 1001 | factor 1 0 2 = 100 | bound 1 1 = 1000 | solve 1 = 1 | weight 0 10 0 = 0 | weight 0 10 1 = 1 | weight 0 11 0 = 1 | weight 0 11 1 = 2");
     run(18, SMALL + "proved 0 = -1 | solve 0 = 2 | proved 0 = -1 | solve 1 = 1 | proved 0 = 1 | proved 1 = -1 | proved -1 = -1 | "
         + "cost 0 3 = 3 | proved 0 = -1");
     run(18, DEEP + "solve 12 = 2 | proved 0 = 1 | proved 1 = 1 | proved 11 = 1 | proved 12 = -1");
