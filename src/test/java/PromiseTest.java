@@ -1,20 +1,5 @@
-import java.lang.reflect.InvocationTargetException;
-import java.lang.reflect.Method;
-import java.util.Arrays;
-import java.util.LinkedHashMap;
-import java.util.Map;
-
-/**
- * Each promise by calls whose answers are written out. A run is a row of calls on a new object,
- * told as "call arguments = answer", with | between; "text ..." feeds its signs, ~ being a blank.
- * Every run is held against the Oracle too, so that a slip in an answer written here shows.
- */
+/** Each promise by calls whose answers are written out, told as Runs tells them. */
 public final class PromiseTest {
-  private static final Map<String, Method> PROGRAM = new LinkedHashMap<>();
-  private static final Map<String, Method> ORACLE = new LinkedHashMap<>();
-  private static final boolean[] TESTED = new boolean[49];
-  private static int wrong = 0;
-
   /** a costs 3, b 4; 2a + 3b are 7 at least, b 2 at most: by fractions 19 by 2, whole 10. */
   private static final String SMALL = "cost 0 3 = 1 | cost 1 4 = 1 | rule 0 7 = 0 | factor 0 0 2 = 100 | "
       + "factor 0 1 3 = 100 | rule 1 2 = 1 | factor 1 1 1 = 100 | ";
@@ -22,13 +7,6 @@ public final class PromiseTest {
   private static final String HALF = "size 1 = 2 | rule 0 1 = 0 | factor 0 0 2 = 100 | rule 1 1 = 1 | factor 1 0 2 = 100 | ";
 
   public static void main(String[] args) throws Exception {
-    for (Method m : WholePacks.class.getDeclaredMethods()) {
-      if (java.lang.reflect.Modifier.isPublic(m.getModifiers())) PROGRAM.put(m.getName(), m);
-    }
-    for (Method m : Oracle.class.getDeclaredMethods()) {
-      Method there = PROGRAM.get(m.getName());
-      if (there != null && Arrays.equals(there.getParameterTypes(), m.getParameterTypes())) ORACLE.put(m.getName(), m);
-    }
     packsAndRules();
     texts();
     tables();
@@ -40,56 +18,15 @@ public final class PromiseTest {
     judgingAndImages();
     tapes();
     constants();
-    for (int p = 1; p <= 48; p++) if (!TESTED[p]) { wrong++; System.out.println("promise " + p + " has no test"); }
-    System.out.println(wrong == 0 ? "promises: all answers are as due" : "promises: " + wrong + " answers are not as due");
-    if (wrong != 0) System.exit(1);
+    Runs.end("promises", 1, 48);
   }
 
   private static void run(int promise, String calls) throws Exception {
-    TESTED[promise] = true;
-    WholePacks program = new WholePacks();
-    Oracle oracle = new Oracle();
-    for (String call : calls.split("\\|")) {
-      String c = call.trim();
-      if (c.isEmpty()) continue;
-      if (c.startsWith("text ")) {
-        for (char sign : c.substring(5).replace('~', ' ').toCharArray()) { program.feed(sign); oracle.feed(sign); }
-        continue;
-      }
-      String[] sides = c.split(" = ");
-      String[] words = sides[0].trim().split(" +");
-      long want = told(sides[1].trim());
-      Method m = PROGRAM.get(words[0]);
-      due(promise, "the program", calls, c, answer(m, program, words), want);
-      due(promise, "the oracle", calls, c, answer(ORACLE.get(words[0]), oracle, words), want);
-    }
+    Runs.run(promise, calls);
   }
 
-  private static long told(String word) {
-    if (word.equals("NO")) return Long.MIN_VALUE;
-    if (word.equals("LOW")) return Integer.MIN_VALUE;
-    if (word.equals("HIGH")) return Integer.MAX_VALUE;
-    return Long.parseLong(word);
-  }
-
-  private static long answer(Method m, Object on, String[] words) throws Exception {
-    Object[] given = new Object[words.length - 1];
-    for (int i = 0; i < given.length; i++) {
-      long v = told(words[i + 1]);
-      if (m.getParameterTypes()[i] == int.class) given[i] = (int) v; else given[i] = v;
-    }
-    try {
-      return ((Number) m.invoke(on, given)).longValue();
-    } catch (InvocationTargetException e) {
-      System.out.println(m.getName() + " threw " + e.getCause());
-      return 123456789;
-    }
-  }
-
-  private static void due(int promise, String who, String run, String call, long got, long want) {
-    if (got == want) return;
-    wrong++;
-    System.out.println("promise " + promise + ": " + call + ": " + who + " answered " + got + " in: " + (run.length() > 100 ? run.substring(0, 100) + ".." : run));
+  private static String problem(int[] costs, int[][] rules) {
+    return Runs.problem(costs, rules);
   }
 
   private static void packsAndRules() throws Exception {
@@ -403,22 +340,8 @@ public final class PromiseTest {
   private static void constants() {
     if (WholePacks.NONE != -1 || WholePacks.BAD != -2 || WholePacks.STATE != -3 || WholePacks.FULL != -4
         || WholePacks.NO != Long.MIN_VALUE) {
-      wrong++;
-      System.out.println("a constant is wrong");
+      Runs.say("a constant is wrong");
     }
-  }
-
-  /** The calls that make a problem: costs, then rules as sort, bound, factors. */
-  private static String problem(int[] costs, int[][] rules) {
-    StringBuilder calls = new StringBuilder("size " + costs.length + " = 2 | ");
-    for (int p = 0; p < costs.length; p++) calls.append("cost ").append(p).append(' ').append(costs[p]).append(" = 1 | ");
-    for (int r = 0; r < rules.length; r++) {
-      calls.append("rule ").append(rules[r][0]).append(' ').append(rules[r][1]).append(" = ").append(r).append(" | ");
-      for (int p = 0; p < costs.length; p++) {
-        calls.append("factor ").append(r).append(' ').append(p).append(' ').append(rules[r][2 + p]).append(" = 100 | ");
-      }
-    }
-    return calls.toString();
   }
 
   private static final String DEEP = problem(new int[] {13, 17, 11, 19, 7}, new int[][] {
