@@ -1,10 +1,6 @@
 /** Each promise by calls whose answers are written out, told as Runs tells them. */
 public final class PromiseTest {
-  /** a costs 3, b 4; 2a + 3b are 7 at least, b 2 at most: by fractions 19 by 2, whole 10. */
-  private static final String SMALL = "cost 0 3 = 1 | cost 1 4 = 1 | rule 0 7 = 0 | factor 0 0 2 = 100 | "
-      + "factor 0 1 3 = 100 | rule 1 2 = 1 | factor 1 1 1 = 100 | ";
-  /** 2a is 1 at least and 1 at most: a mix of fractions, but none of whole numbers. */
-  private static final String HALF = "size 1 = 2 | rule 0 1 = 0 | factor 0 0 2 = 100 | rule 1 1 = 1 | factor 1 0 2 = 100 | ";
+  private static final String SMALL = Problems.SMALL, HALF = Problems.HALF, DEEP = Problems.DEEP, BIGGER = Problems.BIGGER;
 
   public static void main(String[] args) throws Exception {
     packsAndRules();
@@ -113,11 +109,11 @@ public final class PromiseTest {
     run(11, BIG + "solve 0 = 2 | solve 12 = -6 | count 3 = 7 | judge 0 0 = -3");
     run(11, BIGGER + "solve 0 = -6 | count 4 = 4 | count 2 = 5 | count 3 = 0 | solve 12 = -6 | count 3 = 0");
     // a number of 1000000000 is not too large, one of 1000000001 is; BASE alone, a RIGHT alone
-    run(11, problem(new int[] {99, 96, 8, 60, 15}, EDGE) + "solve 0 = 2 | count 4 = 5 | entry -1 5 = 1000000000 | entry -1 6 = 7385");
-    run(11, problem(new int[] {76, 70, 4, 98, 65}, EDGE) + "solve 0 = -6 | count 4 = 4");
+    run(11, Problems.BASE_TAKEN + "solve 0 = 2 | count 4 = 5 | entry -1 5 = 1000000000 | entry -1 6 = 7385");
+    run(11, Problems.BASE_REFUSED + "solve 0 = -6 | count 4 = 4");
     run(11, RIGHT_STUCK + "solve 12 = -6");
     // STUCK by 60 PIVOTS
-    run(11, SIXTY + "solve 12 = -6 | count 4 = 60");
+    run(11, Problems.SIXTY_STUCK + "solve 12 = -6 | count 4 = 60");
 
     run(12, "entry 0 0 = NO | entry -1 0 = NO | entry -2 0 = NO | solve 0 = 1 | entry -1 0 = 1 | entry -1 1 = 1 | entry -1 2 = 0 | "
         + "entry -1 3 = 1 | entry -1 4 = NO | entry -1 -1 = NO | entry -2 0 = 0 | entry -2 1 = 1 | entry -2 2 = NO | "
@@ -220,9 +216,9 @@ public final class PromiseTest {
     run(28, NO_LEAST + "branch 0 = 7 | branch 1 = 15 | branch 3 = 63");
     run(28, HALF + "branch 0 = -5 | branch 1 = 3 | branch 3 = 4 | branch 2 = -5 | branch 4 = -5");
     run(28, DEEP + "branch 0 = 192 | branch 1 = 25 | branch 2 = 3 | branch 3 = 132 | branch 4 = 0 | branch 8 = 1 | branch 9 = -1");
-    run(28, FORTY + "branch 0 = -6 | branch 1 = 40 | branch 2 = -6 | branch 3 = 88 | branch 4 = -6 | branch 7 = -1");
+    run(28, Problems.NODES_STUCK + "branch 0 = -6 | branch 1 = 40 | branch 2 = -6 | branch 3 = 88 | branch 4 = -6 | branch 7 = -1");
     run(28, BIGGER + "branch 0 = -6 | branch 1 = 1 | branch 3 = 4 | branch 8 = -6");
-    run(28, NODE_STUCK + "branch 0 = -6 | branch 1 = 3 | branch 3 = 20 | solve 12 = 1 | value 0 = 341543");
+    run(28, Problems.NODE_STUCK + "branch 0 = -6 | branch 1 = 3 | branch 3 = 20 | solve 12 = 1 | value 0 = 341543");
     run(28, FIRST_OF_TWO_STUCK + "branch 0 = -6 | branch 1 = 30 | branch 3 = 148");
 
     run(29, SMALL + "would 0 8 = 11 | would 0 999 = 1498 | would 1 -1 = -5 | would 2 0 = -1 | would -1 0 = -1 | would 2 1000 = -1 | "
@@ -344,23 +340,12 @@ public final class PromiseTest {
     }
   }
 
-  private static final String DEEP = problem(new int[] {13, 17, 11, 19, 7}, new int[][] {
-      {0, 97, 9, 7, 8, 5, 3}, {0, 83, 2, 9, 3, 7, 5}, {1, 60, 4, 5, 3, 6, 7}, {0, 31, -3, 4, 7, -2, 5}});
   private static final String BIG = problem(new int[] {86, 12, 91, 28, 16}, new int[][] {
       {0, 676, -2, -5, -4, -4, 7}, {0, 139, 9, -1, 9, -5, -8}, {0, 73, -2, 1, -1, 5, 3}, {0, 383, 9, 4, -9, 6, 2},
       {0, 416, -9, 9, 1, -9, 5}});
-  private static final String BIGGER = problem(new int[] {23, 95, 75, 89, 99}, new int[][] {
-      {0, 588, -6, -4, 5, -5, 5}, {0, 999, 8, -2, 2, 4, 8}, {0, 677, 3, 6, 4, 4, -5}, {0, 256, -7, 1, -9, -2, 1},
-      {0, 372, 8, -7, 2, 9, -6}});
-  private static final String NODE_STUCK = problem(new int[] {60, 12, 1, 83, 22}, new int[][] {
-      {0, 595, 9, -7, -7, -2, -2}, {0, 24, 5, -2, 6, 0, -1}, {0, 934, 4, 2, 2, 6, -9}, {0, 226, -1, 2, -7, 7, -8},
-      {0, 163, -6, -8, 4, 1, 2}});
   private static final String FIRST_OF_TWO_STUCK = problem(new int[] {84, 83, 55, 99, 99}, new int[][] {
       {0, 805, 8, 1, 6, -6, 2}, {1, 692, -5, -8, 3, 4, 0}, {0, 37, 0, 0, 3, -5, -1}, {0, 205, 2, 9, -9, 7, -3},
       {0, 469, 2, -7, -8, -1, 6}, {0, 181, 7, -5, 6, -1, -6}, {0, 975, -4, 6, 9, -8, -4}});
-  private static final int[][] EDGE = {
-      {0, 704, 1, 5, -8, 2, 9}, {0, 950, -3, 0, -2, 7, -4}, {0, 756, -7, 4, 9, 0, -6}, {0, 538, 2, -6, 9, -4, -3},
-      {0, 577, 3, 1, 0, -3, 1}};
   private static final String RIGHT_STUCK = problem(new int[] {3, 1, 1, 1, 3}, new int[][] {
       {0, 950, 4, -4, 6, -4, 1}, {0, 382, -9, 6, -5, 5, 8}, {0, 404, 9, -4, -5, 4, 9}, {0, 65, 1, -3, 2, 1, -7},
       {1, 630, 0, -8, 6, 1, 7}, {0, 917, 8, 9, 5, 9, -9}});
@@ -372,8 +357,4 @@ public final class PromiseTest {
       {0, 22, 0, 3, 3, 3, 3}, {0, 17, 1, 2, 2, 3, 1}});
   private static final String NO_LEAST = problem(new int[] {3, 3, 2, 1}, new int[][] {
       {0, 7, 9, 8, 8, 0}, {0, 15, 9, 6, 4, 5}, {0, 29, 3, 4, 0, 7}, {0, 12, 3, 8, 6, 5}});
-  private static final String SIXTY = problem(new int[] {0, 0, 0, 0, 0}, new int[][] {
-      {0, 11, 7, 7, 7, -1, 3}, {0, 16, 9, 0, -9, 4, 6}, {0, 9, 1, -8, 6, 4, 8}, {0, 26, -9, 2, -1, -9, 4},
-      {0, 23, 5, -2, 2, 7, 6}});
-  private static final String FORTY = problem(new int[] {87, 90, 55}, new int[][] {{0, 98, 8, 8, 0}});
 }
