@@ -798,11 +798,11 @@ public final class WholePacks {
     }
 
     long restOf(long number) {
-      return Math.floorMod(number, divisor);
+      return divisor > 0 ? Math.floorMod(number, divisor) : 0;
     }
 
     long wholeOf(long number) {
-      return Math.floorDiv(number, divisor);
+      return divisor > 0 ? Math.floorDiv(number, divisor) : 0;
     }
 
     int repair() {
@@ -882,7 +882,8 @@ public final class WholePacks {
 
     /** (Q told + factor beside) / D: exact, and no product leaves a long, all being near. */
     private long mixed(long told, long factor, long beside, int row, int column) {
-      return (-entries[row * PACKS + column] * told + factor * beside) / divisor;
+      long sum = -entries[row * PACKS + column] * told + factor * beside;
+      return divisor > 0 ? sum / divisor : 0;
     }
 
     int rowOf(int owner) {

@@ -97,6 +97,7 @@ public final class BoundaryBoxTest {
         twenty + "rule 1 0 = 1 | factor 1 0 1 = 100 | many 0 = 0 | nth 0 = -5 | nth 19 = -5 | nth -1 = -2");
     holds(24, "ORDER of MIXES: by their COST, of like ones by CODES.",
         "nth 0 = 0 | nth 1 = 1 | nth 2 = 10 | nth 3 = 2 | nth 4 = 11 | nth 5 = 20 | nth 6 = 3", "cost 0 0 = 1 | cost 1 0 = 1 | nth 0 = 0 | nth 4 = 4 | nth 5 = 10 | nth 19 = 34",
+        "box 6 = 4 | nth 15 = 5 | nth 16 = 14 | nth 17 = 23 | nth 18 = 32 | nth 19 = 41 | nth 20 = -2",
         "cost 0 99 = 1 | nth 4 = 4 | nth 5 = 10 | cost 1 99 = 1 | nth 1 = 1 | nth 2 = 10 | cost 0 98 = 99 | nth 1 = 10 | nth 2 = 1");
   }
 

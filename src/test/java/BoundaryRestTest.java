@@ -71,6 +71,8 @@ public final class BoundaryRestTest {
   }
 
   private static void ends() throws Exception {
+    holds(40, "(0 BOUND of RULE k is v, 1 COST of PACK k is v, 2 FACTOR of the first PACK in RULE k is v; 8 rows at most)", "rule 0 5 = 0 | factor 0 1 1 = 100 | ends = 5 | plan 1 1 7 = 1 | ends = 35 | plan 2 0 1 = 2 | ends = 5",
+        "size 1 = 2 | rule 0 1 = 0 | factor 0 0 1 = 100 | rule 0 8 = 1 | ends = -5 | plan 2 1 4 = 1 | ends = 2 | plan 0 1 9 = 2 | ends = 3");
     holds(40, "ENDS: WORTH then.", "ends = 0 | plan 1 0 99 = 1 | ends = 0", TWO + "ends = 5 | plan 0 0 9 = 1 | ends = 9 | plan 0 0 10 = 2 | ends = -5 | plan 0 0 -99 = 3 | ends = 0 | plan 0 0 4 = 4 | ends = 4 | plan 1 0 99 = 5 | ends = 396 | plan 1 0 0 = 6 | ends = 0 | "
         + "plan 1 0 1 = 7 | plan 2 0 0 = 8 | ends = -5 | ruleOf 0 1 = 1005 | ruleOf 0 2 = 1001 | mean 0 = 1 | plan -1 0 0 = 0 | ends = 5", Problems.BIGGER + "ends = -6");
     holds(40, "(What there is no more is passed over.)", TWO + "plan 0 1 1 = 1 | plan 2 1 9 = 2 | plan 0 0 3 = 3 | ends = -5 | less = 1 | ends = 3 | less = 0 | ends = 0 | count 6 = 3 | rule 0 8 = 0 | ends = -5 | factor 0 0 1 = 100 | ends = 3 | rule 1 9 = 1 | ends = -5 | "
@@ -112,6 +114,10 @@ public final class BoundaryRestTest {
     String sentence = "THE IMAGE: PACKS, COSTS, RULES, HANDS, BY, BOX, SEEN, the PLAN, OFFERS.";
     holds(43, sentence, filled + "image = 8 | size 1 = 5 | undo = 8 | " + told + costs, filled + "image = 8 | size 5 = 5 | rule 0 1 = 0 | hand 0 9 = 0 | see 0 7 = 1 | offer 5 5 = -5 | plan 1 0 3 = 1 | box 0 = 6 | by 3 = 1 | cost 0 4 = 1 | undo = 8 | " + told + costs,
         filled + "image = 8 | undo = 8 | size 2 = 5 | undo = 8 | " + told + costs,
+        // what was told behind THE IMAGE, in the place of what it holds
+        TWO + "see 0 5 = 1 | see 1 0 = 2 | plan 0 0 6 = 1 | plan 1 0 5 = 2 | offer 10 7 = -5 | offer 1 8 = -5 | fits 0 0 = 1 | fits 0 1 = 5 | ends = 30 | image = 2 | see -1 0 = 0 | see 1 7 = 1 | see 0 3 = 2 | plan -1 0 0 = 0 | plan 1 1 3 = 1 | plan 0 1 2 = 2 | "
+        + "offer 1 99 = 8 | offer 10 98 = 7 | cost 1 9 = 1 | offer 22 3 = -5 | offer 33 4 = -5 | offer 0 0 = -5 | ends = -5 | fits 0 0 = 0 | undo = 2 | fits 0 0 = 1 | fits 0 1 = 5 | ends = 30 | count 7 = 2 | offered 0 0 = 1 | offered 0 1 = 8 | offered 0 2 = 1 | offered 1 0 = 10 | "
+        + "offered 1 1 = 7 | offered 1 2 = 1 | see 0 9 = 3 | offer 1 5 = 8 | plan 0 0 9 = 3 | undo = 2 | fits 0 0 = 1 | offered 0 1 = 8 | ends = 30 | cost 1 1 = 1",
         // THE IMAGE of what is empty
         "image = 0 | " + filled + "undo = 0 | count 0 = 2 | count 1 = 0 | count 5 = 0 | count 6 = 0 | count 7 = 0 | count 9 = 4 | by 1 = 1 | cost 0 1 = 1 | rule 0 0 = 0 | hand 0 0 = 0 | ruleOf 0 2 = 1000 | size 5 = 2 | cost 4 1 = 1");
     holds(43, "(Not THE TEXT, TAPES. There is no TABLE behind undo().)", "text a> | tape 0 2 1 = 1 | item 0 0 5 = 1 | solve 0 = 1 | image = 0 | value 0 = 0 | feed 49 = 3 | item 0 0 7 = 1 | tape 1 0 2 = 1 | undo = 0 | value 0 = NO | count 2 = 0 | count 4 = 0 | count 8 = 3 | peek 0 0 = 7 | "

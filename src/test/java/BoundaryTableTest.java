@@ -84,7 +84,8 @@ public final class BoundaryTableTest {
   private static void sixtyPivots() throws Exception {
     holds(11, "(60 PIVOTS in all.)", Problems.SIXTY_WHOLE + "solve 12 = 1 | count 4 = 60 | count 3 = 12 | value 0 = 0",
         Problems.SIXTY_PARTED + "solve 12 = 2 | count 4 = 60 | count 3 = 12 | amount 1 0 = 1 | amount 1 1 = 3");
-    holds(11, "else, if 60 PIVOTS were done: STUCK.", Problems.SIXTY_STUCK + "solve 12 = -6 | count 4 = 60 | solve 0 = 2 | solve 12 = -6");
+    holds(11, "else, if 60 PIVOTS were done: STUCK.", Problems.SIXTY_STUCK + "solve 12 = -6 | count 4 = 60 | solve 0 = 2 | solve 12 = -6",
+        Problems.ROUND + "solve 0 = -6 | count 4 = 60 | count 3 = 0");
     holds(11, "A COLUMN is looked for ahead of asking for 60 PIVOTS.", Problems.SIXTY_NO_MIX + "solve 12 = 0 | count 4 = 60 | count 3 = 12");
   }
 
@@ -157,6 +158,9 @@ public final class BoundaryTableTest {
         Problems.HALF + "solve 1 = 0 | weight 0 10 0 = 1 | weight 0 10 1 = 2 | weight 0 11 0 = 0 | weight 0 11 1 = 1",
         "size 1 = 2 | rule 0 2 = 0 | factor 0 0 6 = 100 | solve 1 = 2 | weight 0 10 0 = 5 | weight 0 10 1 = 6",
         "size 1 = 2 | rule 1 -2 = 0 | factor 0 0 -6 = 100 | solve 1 = 2 | weight 0 10 0 = 5 | weight 0 10 1 = 6 | cut 0 0 = -5 | cut 0 1 = -2",
+        // those of an earlier TABLE's CUT are no more
+        "size 1 = 2 | rule 0 1 = 0 | factor 0 0 2 = 100 | rule 0 0 = 1 | solve 1 = 1 | weight 0 10 1 = 2 | weight 0 11 1 = 1 | factor 0 0 0 = 102 | bound 0 0 = 1001 | factor 1 0 2 = 100 | bound 1 1 = 1000 | "
+        + "solve 1 = 1 | weight 0 10 0 = 0 | weight 0 10 1 = 1 | weight 0 11 0 = 1 | weight 0 11 1 = 2",
         // ENTRIES 7 and -3, DIVISOR 6
         Problems.TWELVE + "solve 11 = 2 | entry 2 0 = 7 | entry 2 2 = -3 | entry -1 4 = 6 | solve 12 = 1 | weight 11 30 0 = 1 | weight 11 30 1 = 6 | weight 11 12 0 = 1 | weight 11 12 1 = 2 | weight 11 11 0 = 0 | weight 11 11 1 = 1");
     holds(18, "Whether a CUT is PROVED: 1, 0. NONE.",

@@ -51,6 +51,8 @@ public final class BoundaryThoughtTest {
     holds(28, "The NODE of the least VALUE (of like ones the least number) of those that wait is taken", "cost 0 0 = 1 | cost 1 0 = 1 | rule 0 17 = 0 | factor 0 0 2 = 100 | factor 0 1 1 = 100 | branch 1 = 3 | branch 4 = 8 | branch 5 = 1",
         // of NODES 1 and 2 the second is the cheaper: 5a with 1 of b, or 3 of a
         "cost 0 4 = 1 | cost 1 9 = 1 | rule 0 5 = 0 | factor 0 0 2 = 100 | factor 0 1 1 = 100 | branch 0 = 12 | branch 1 = 3 | branch 4 = 3 | branch 5 = 0 | cost 1 3 = 9 | branch 0 = 11 | branch 4 = 2 | branch 5 = 1");
+    // of RISES alike the least OWNER
+    holds(28, "in branches 40, or 50, and a PACK's", Problems.LEASTS + "branch 0 = 7 | branch 1 = 29 | branch 3 = 142", Problems.MOSTS + "branch 0 = -6 | branch 1 = 40 | branch 3 = 148", Problems.EVEN + "branch 0 = 11 | branch 1 = 21 | branch 3 = 59");
     holds(28, "is it WHOLE, that is the answer", "rule 0 4 = 0 | factor 0 0 2 = 100 | branch 0 = 2 | branch 1 = 1 | branch 2 = 0 | bound 0 5 = 1004 | branch 0 = 3 | branch 1 = 3 | branch 2 = 1");
     holds(28, "Else of the first PACK that isn't whole, f being its amount rounded down", "cost 0 5 = 1 | cost 1 0 = 1 | rule 0 3 = 0 | factor 0 1 2 = 100 | rule 0 1 = 1 | factor 1 0 2 = 100 | branch 0 = 5 | branch 1 = 5 | branch 2 = 2 | branch 3 = 14",
         // 5 by 2: 2 and 3; 1 by 2: 0 and 1
@@ -60,8 +62,11 @@ public final class BoundaryThoughtTest {
   private static void stuck() throws Exception {
     holds(28, "NODES, numbered as they come, 40 at most", Problems.NODES_ANSWER + "branch 0 = 56 | branch 1 = 39 | branch 2 = 2 | branch 3 = 184 | branch 4 = 10 | branch 5 = 13 | branch 6 = 20 | branch 7 = 0",
         Problems.NODES_NO_MIX + "branch 0 = -5 | branch 1 = 39 | branch 3 = 166");
+    // each NODE has 60 of its own: NODES 0 and 1 have 5 together
+    holds(28, "REPAIR (60 PIVOTS).", Problems.ROUND + "branch 0 = -6 | branch 1 = 1 | branch 3 = 60", Problems.NODE_ROUND + "branch 0 = -6 | branch 1 = 3 | branch 2 = -6 | branch 3 = 65 | solve 0 = 2 | count 4 = 2");
     holds(28, "STUCK: a NODE is, or there would be more than 40.", Problems.NODES_STUCK + "branch 0 = -6 | branch 1 = 40 | branch 3 = 88", Problems.NODE_STUCK + "branch 0 = -6 | branch 1 = 3 | branch 3 = 20 | branch 8 = -6 | branch 9 = -1",
-        Problems.BIGGER + "branch 0 = -6 | branch 1 = 1 | branch 3 = 4", Problems.RIGHT_TAKEN + "branch 0 = -5 | branch 1 = 1 | branch 3 = 5", Problems.RIGHT_REFUSED + "branch 0 = -6 | branch 1 = 1 | branch 3 = 4");
+        Problems.BIGGER + "branch 0 = -6 | branch 1 = 1 | branch 3 = 4", Problems.FIRST_OF_TWO_STUCK + "branch 0 = -6 | branch 1 = 30 | branch 3 = 148",
+        Problems.RIGHT_TAKEN + "branch 0 = -5 | branch 1 = 1 | branch 3 = 5", Problems.RIGHT_REFUSED + "branch 0 = -6 | branch 1 = 1 | branch 3 = 4");
   }
 
   private static void worth() throws Exception {
@@ -70,7 +75,7 @@ public final class BoundaryThoughtTest {
         + "would 0 LOW = -2 | would 0 HIGH = -2 | would 0 -99 = 0 | would 0 0 = 0 | would 0 1 = 1 | would 0 999 = 999 | ruleOf 0 1 = 1007",
         EIGHT + "would 7 5 = 0 | would 8 5 = -1");
     holds(29, "the VALUE, if it is WHOLE; -5, if there is NO MIX; -6 else.", Problems.HALF + "would 0 1 = -5 | would 0 0 = 0 | would 1 2 = 1 | would 1 -1 = -5", Problems.DEEP + "would 0 97 = -6 | would 0 150 = -5",
-        Problems.BIGGER + "would 0 588 = -6", Problems.SIXTY_STUCK + "would 0 11 = -6", Problems.SIXTY_WHOLE + "would 0 0 = 0", Problems.SIXTY_NO_MIX + "would 0 2 = -5", Problems.SIXTY_PARTED + "would 0 1 = -6",
+        Problems.BIGGER + "would 0 588 = -6", Problems.SIXTY_STUCK + "would 0 11 = -6", Problems.SIXTY_WHOLE + "would 0 0 = 0", Problems.SIXTY_NO_MIX + "would 0 2 = -5", Problems.SIXTY_PARTED + "would 0 1 = -6", Problems.ROUND + "would 0 -14 = -6 | ends = -6",
         "cost 0 0 = 1 | rule 0 7 = 0 | factor 0 0 1 = 100 | would 0 7 = 0");
     holds(29, "WORTH is -6 also if it is not WHOLE behind 12 CUTS.", Problems.TWELVE + "would 2 21 = 166 | ends = 166", Problems.DEEP + "would 0 97 = -6 | ends = -6 | solve 12 = 2 | count 3 = 12");
   }
@@ -125,6 +130,7 @@ public final class BoundaryThoughtTest {
 
   private static void draws() throws Exception {
     holds(34, "RULES are m (1 .. 4) others", "drawn 1 0 = -2 | drawn 1 5 = -2 | drawn 1 -1 = -2 | drawn 1 LOW = -2 | drawn 1 HIGH = -2 | cost 0 99 = 1 | drawn 1 1 = 3 | drawn 1 4 = 6 | count 1 = 0",
+        "cost 0 99 = 1 | rule 1 0 = 0 | rule 1 -9 = 1 | drawn 1 1 = 3 | drawn 1 4 = 6 | drawn 2 4 = 2091 | count 1 = 2 | ruleOf 0 0 = 1001",
         EIGHT + "factor 0 0 9 = 100 | bound 0 99 = 1000 | cost 0 99 = 1 | drawn 1 4 = 6 | drawn 2 4 = 2091 | drawn 2 1 = 12 | count 1 = 8 | ruleOf 0 1 = 1099 | ruleOf 0 2 = 1009");
     holds(34, "seed becomes seed * 1103515245 + 12345 (an int); (seed >>> 9) % k.",
         "cost 0 99 = 1 | drawn LOW 4 = 42 | drawn HIGH 2 = 7 | drawn -9 1 = 7 | drawn -1 1 = 13 | drawn 0 1 = 1", "size 5 = 2 | drawn LOW 4 = 13 | drawn HIGH 4 = 7 | drawn 0 4 = 6 | drawn -1 4 = -6");

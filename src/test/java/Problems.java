@@ -61,6 +61,21 @@ final class Problems {
   static final String NODE_STUCK = Runs.problem(new int[] {60, 12, 1, 83, 22}, new int[][] {
       {0, 595, 9, -7, -7, -2, -2}, {0, 24, 5, -2, 6, 0, -1}, {0, 934, 4, 2, 2, 6, -9}, {0, 226, -1, 2, -7, 7, -8},
       {0, 163, -6, -8, 4, 1, 2}});
+  /** The first of two NODES that would come together is STUCK. */
+  static final String FIRST_OF_TWO_STUCK = Runs.problem(new int[] {84, 83, 55, 99, 99}, new int[][] {
+      {0, 805, 8, 1, 6, -6, 2}, {1, 692, -5, -8, 3, 4, 0}, {0, 37, 0, 0, 3, -5, -1}, {0, 205, 2, 9, -9, 7, -3},
+      {0, 469, 2, -7, -8, -1, 6}, {0, 181, 7, -5, 6, -1, -6}, {0, 975, -4, 6, 9, -8, -4}});
+  /** VALUES alike; RISES alike of the LEFTS of LEASTS; of those and of MOSTS. */
+  static final String EVEN = Runs.problem(new int[] {3, 2, 2}, new int[][] {
+      {0, 18, 6, 6, 0}, {0, 10, 9, 3, 9}, {0, 28, 8, 5, 5}});
+  static final String LEASTS = Runs.problem(new int[] {1, 3, 2, 3, 3}, new int[][] {
+      {0, 10, 8, 2, 7, 2, 4}, {0, 11, 1, 7, 2, 6, 4}, {1, 19, 9, 4, 3, 0, 9}});
+  static final String MOSTS = Runs.problem(new int[] {1, 1, 1, 1, 1}, new int[][] {
+      {0, 22, 0, 3, 3, 3, 3}, {0, 17, 1, 2, 2, 3, 1}});
+  /** REPAIR goes round, all RISES being 0: THE TABLE as at first, and NODE 0; NODE 2 alone. */
+  static final String ROUND = Runs.problem(new int[] {0, 0, 0, 0}, new int[][] {
+      {1, -14, 0, 6, 1, 0}, {1, 121, -8, -1, 5, 0}, {0, 12, -4, 5, -7, 2}, {0, -17, -8, 7, -5, 9}, {0, 17, 1, -4, 8, 1}, {0, 861, 6, -6, -9, 8}, {1, 12, 1, 3, 1, 0}});
+  static final String NODE_ROUND = Runs.problem(new int[] {0, 0, 0, 0}, new int[][] {{0, -6, 0, 7, 4, 7}, {0, 14, 9, 7, 9, 0}, {0, 7, 4, 0, 4, 1}});
 
   private Problems() { }
 }

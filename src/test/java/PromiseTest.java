@@ -210,16 +210,16 @@ public final class PromiseTest {
         + "branch 3 = 2 | branch 4 = -5 | branch 6 = -1");
     run(28, "size 1 = 2 | cost 0 3 = 1 | rule 0 4 = 0 | factor 0 0 2 = 100 | branch 0 = 6 | branch 1 = 1 | branch 2 = 0 | branch 3 = 1 | branch 4 = 2");
     // of like VALUES the least number; of like RISES the LEFTS of LEASTS by their PACKS, then those of MOSTS
-    run(28, EVEN + "branch 0 = 11 | branch 1 = 21 | branch 2 = 3 | branch 3 = 59");
-    run(28, LEASTS + "branch 0 = 7 | branch 1 = 29 | branch 3 = 142");
-    run(28, MOSTS + "branch 0 = -6 | branch 1 = 40 | branch 3 = 148");
+    run(28, Problems.EVEN + "branch 0 = 11 | branch 1 = 21 | branch 2 = 3 | branch 3 = 59");
+    run(28, Problems.LEASTS + "branch 0 = 7 | branch 1 = 29 | branch 3 = 142");
+    run(28, Problems.MOSTS + "branch 0 = -6 | branch 1 = 40 | branch 3 = 148");
     run(28, NO_LEAST + "branch 0 = 7 | branch 1 = 15 | branch 3 = 63");
     run(28, HALF + "branch 0 = -5 | branch 1 = 3 | branch 3 = 4 | branch 2 = -5 | branch 4 = -5");
     run(28, DEEP + "branch 0 = 192 | branch 1 = 25 | branch 2 = 3 | branch 3 = 132 | branch 4 = 0 | branch 8 = 1 | branch 9 = -1");
     run(28, Problems.NODES_STUCK + "branch 0 = -6 | branch 1 = 40 | branch 2 = -6 | branch 3 = 88 | branch 4 = -6 | branch 7 = -1");
     run(28, BIGGER + "branch 0 = -6 | branch 1 = 1 | branch 3 = 4 | branch 8 = -6");
     run(28, Problems.NODE_STUCK + "branch 0 = -6 | branch 1 = 3 | branch 3 = 20 | solve 12 = 1 | value 0 = 341543");
-    run(28, FIRST_OF_TWO_STUCK + "branch 0 = -6 | branch 1 = 30 | branch 3 = 148");
+    run(28, Problems.FIRST_OF_TWO_STUCK + "branch 0 = -6 | branch 1 = 30 | branch 3 = 148");
 
     run(29, SMALL + "would 0 8 = 11 | would 0 999 = 1498 | would 1 -1 = -5 | would 2 0 = -1 | would -1 0 = -1 | would 2 1000 = -1 | "
         + "would 0 -100 = -2 | would 0 1000 = -2 | would 0 -99 = 0 | ruleOf 0 1 = 1007 | solve 0 = 2 | would 0 8 = 11 | value 0 = 19 | "
@@ -343,18 +343,9 @@ public final class PromiseTest {
   private static final String BIG = problem(new int[] {86, 12, 91, 28, 16}, new int[][] {
       {0, 676, -2, -5, -4, -4, 7}, {0, 139, 9, -1, 9, -5, -8}, {0, 73, -2, 1, -1, 5, 3}, {0, 383, 9, 4, -9, 6, 2},
       {0, 416, -9, 9, 1, -9, 5}});
-  private static final String FIRST_OF_TWO_STUCK = problem(new int[] {84, 83, 55, 99, 99}, new int[][] {
-      {0, 805, 8, 1, 6, -6, 2}, {1, 692, -5, -8, 3, 4, 0}, {0, 37, 0, 0, 3, -5, -1}, {0, 205, 2, 9, -9, 7, -3},
-      {0, 469, 2, -7, -8, -1, 6}, {0, 181, 7, -5, 6, -1, -6}, {0, 975, -4, 6, 9, -8, -4}});
   private static final String RIGHT_STUCK = problem(new int[] {3, 1, 1, 1, 3}, new int[][] {
       {0, 950, 4, -4, 6, -4, 1}, {0, 382, -9, 6, -5, 5, 8}, {0, 404, 9, -4, -5, 4, 9}, {0, 65, 1, -3, 2, 1, -7},
       {1, 630, 0, -8, 6, 1, 7}, {0, 917, 8, 9, 5, 9, -9}});
-  private static final String EVEN = problem(new int[] {3, 2, 2}, new int[][] {
-      {0, 18, 6, 6, 0}, {0, 10, 9, 3, 9}, {0, 28, 8, 5, 5}});
-  private static final String LEASTS = problem(new int[] {1, 3, 2, 3, 3}, new int[][] {
-      {0, 10, 8, 2, 7, 2, 4}, {0, 11, 1, 7, 2, 6, 4}, {1, 19, 9, 4, 3, 0, 9}});
-  private static final String MOSTS = problem(new int[] {1, 1, 1, 1, 1}, new int[][] {
-      {0, 22, 0, 3, 3, 3, 3}, {0, 17, 1, 2, 2, 3, 1}});
   private static final String NO_LEAST = problem(new int[] {3, 3, 2, 1}, new int[][] {
       {0, 7, 9, 8, 8, 0}, {0, 15, 9, 6, 4, 5}, {0, 29, 3, 4, 0, 7}, {0, 12, 3, 8, 6, 5}});
 }
