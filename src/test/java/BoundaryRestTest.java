@@ -115,9 +115,9 @@ public final class BoundaryRestTest {
     holds(43, sentence, filled + "image = 8 | size 1 = 5 | undo = 8 | " + told + costs, filled + "image = 8 | size 5 = 5 | rule 0 1 = 0 | hand 0 9 = 0 | see 0 7 = 1 | offer 5 5 = -5 | plan 1 0 3 = 1 | box 0 = 6 | by 3 = 1 | cost 0 4 = 1 | undo = 8 | " + told + costs,
         filled + "image = 8 | undo = 8 | size 2 = 5 | undo = 8 | " + told + costs,
         // what was told behind THE IMAGE, in the place of what it holds
-        TWO + "see 0 5 = 1 | see 1 0 = 2 | plan 0 0 6 = 1 | plan 1 0 5 = 2 | offer 10 7 = -5 | offer 1 8 = -5 | fits 0 0 = 1 | fits 0 1 = 5 | ends = 30 | image = 2 | see -1 0 = 0 | see 1 7 = 1 | see 0 3 = 2 | plan -1 0 0 = 0 | plan 1 1 3 = 1 | plan 0 1 2 = 2 | "
-        + "offer 1 99 = 8 | offer 10 98 = 7 | cost 1 9 = 1 | offer 22 3 = -5 | offer 33 4 = -5 | offer 0 0 = -5 | ends = -5 | fits 0 0 = 0 | undo = 2 | fits 0 0 = 1 | fits 0 1 = 5 | ends = 30 | count 7 = 2 | offered 0 0 = 1 | offered 0 1 = 8 | offered 0 2 = 1 | offered 1 0 = 10 | "
-        + "offered 1 1 = 7 | offered 1 2 = 1 | see 0 9 = 3 | offer 1 5 = 8 | plan 0 0 9 = 3 | undo = 2 | fits 0 0 = 1 | offered 0 1 = 8 | ends = 30 | cost 1 1 = 1",
+        TWO + "see 0 5 = 1 | see 1 0 = 2 | plan 0 0 6 = 1 | plan 2 0 2 = 2 | offer 10 7 = -5 | offer 1 8 = -5 | fits 0 0 = 1 | fits 0 1 = 5 | ends = 3 | image = 2 | see -1 0 = 0 | see 1 7 = 1 | see 0 3 = 2 | plan -1 0 0 = 0 | plan 2 0 3 = 1 | plan 0 1 2 = 2 | "
+        + "offer 1 99 = 8 | offer 10 98 = 7 | cost 1 9 = 1 | offer 22 3 = -5 | offer 33 4 = -5 | offer 0 0 = -5 | ends = 2 | fits 0 0 = 0 | undo = 2 | fits 0 0 = 1 | fits 0 1 = 5 | ends = 3 | count 7 = 2 | offered 0 0 = 1 | offered 0 1 = 8 | offered 0 2 = 1 | offered 1 0 = 10 | "
+        + "offered 1 1 = 7 | offered 1 2 = 1 | see 0 9 = 3 | offer 1 5 = 8 | plan 0 0 9 = 3 | undo = 2 | fits 0 0 = 1 | offered 0 1 = 8 | ends = 3 | cost 1 1 = 1",
         // THE IMAGE of what is empty
         "image = 0 | " + filled + "undo = 0 | count 0 = 2 | count 1 = 0 | count 5 = 0 | count 6 = 0 | count 7 = 0 | count 9 = 4 | by 1 = 1 | cost 0 1 = 1 | rule 0 0 = 0 | hand 0 0 = 0 | ruleOf 0 2 = 1000 | size 5 = 2 | cost 4 1 = 1");
     holds(43, "(Not THE TEXT, TAPES. There is no TABLE behind undo().)", "text a> | tape 0 2 1 = 1 | item 0 0 5 = 1 | solve 0 = 1 | image = 0 | value 0 = 0 | feed 49 = 3 | item 0 0 7 = 1 | tape 1 0 2 = 1 | undo = 0 | value 0 = NO | count 2 = 0 | count 4 = 0 | count 8 = 3 | peek 0 0 = 7 | "
