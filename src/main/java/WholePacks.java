@@ -33,7 +33,7 @@ public final class WholePacks {
   private final Solution solved = new Solution();
   private final Solution trial = new Solution();
   private final Tree tree = new Tree();
-  private final Walk walk = new Walk(now.packs);
+  private final Walk walk = new Walk();
   private final Shelf cheapest = new Shelf();
   private final Text text = new Text();
   private final Tapes tapes = new Tapes();
@@ -215,7 +215,7 @@ public final class WholePacks {
   public int nth(int k) {
     if (k < 0 || k >= MIXES) return BAD;
     cheapest.clear();
-    walk.start(now.box);
+    walk.start(now.packs, now.box);
     for (int left = walk.mixes; left > 0; left--) {
       if (walk.obeys()) cheapest.keepIfCheap(walk.code, walk.cost);
       walk.step();
@@ -226,7 +226,7 @@ public final class WholePacks {
   public int many(int what) {
     if (what < 0 || what > 1) return NONE;
     int found = 0;
-    walk.start(now.box);
+    walk.start(now.packs, now.box);
     for (int left = walk.mixes; left > 0; left--) {
       if (walk.broken() == what) found++;
       walk.step();
@@ -244,7 +244,7 @@ public final class WholePacks {
     for (int place = 0; place <= now.packs.number; place++) {
       asked[place] = cut == -1 ? now.handForm(place) : solved.cuts.formOf(cut, place);
     }
-    walk.start(now.box);
+    walk.start(now.packs, now.box);
     for (int left = walk.mixes; left > 0; left--) {
       if (walk.obeys() && walk.isBeyond(asked)) return walk.code;
       walk.step();
@@ -587,7 +587,9 @@ public final class WholePacks {
     }
 
     private int digitOf(int code, int pack) {
-      return code / TENS[number - 1 - pack] % 10;
+      int rest = code;
+      for (int behind = number - 1; behind > pack; behind--) rest /= 10;
+      return rest % 10;
     }
 
     /** One row of the PLAN; what there is no more is passed over. */
@@ -1133,15 +1135,12 @@ public final class WholePacks {
     int code;
     int cost;
     private int box;
-    private final Packs packs;
+    private final Packs packs = new Packs();
     private final int[] digits = new int[PACKS];
     private final int[] lefts = new int[RULES];
 
-    Walk(Packs packs) {
-      this.packs = packs;
-    }
-
-    void start(int side) {
+    void start(Packs told, int side) {
+      packs.become(told);
       box = side;
       mixes = 1;
       code = 0;

@@ -1,7 +1,7 @@
 /**
  * Sentences that name a boundary case, each with a test of its own: THE TABLE, its CUTS (promises 11 to 18).
- * Of "A CUT BY which it is STUCK is not made" there is none: POINTS near 1000000000 were never met
- * (a search that climbed towards them came to 2000000), nor was a CUT that isn't PROVED.
+ * Of "A CUT by which it is STUCK is not made" there is none: no POINTS come near to 1000000000 (NOTES.md says why),
+ * and no CUT comes that isn't PROVED.
  */
 public final class BoundaryTableTest {
   private static final String EIGHT_AND_TWELVE = Problems.DEEP + "rule 0 0 = 4 | rule 1 999 = 5 | rule 0 -99 = 6 | rule 1 0 = 7 | ";

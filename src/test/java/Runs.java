@@ -41,6 +41,28 @@ final class Runs {
     for (String calls : told) run(promise, sentence, calls);
   }
 
+  /** A sentence to which a test holds the class by its own means, not by runs. */
+  static void quotes(int promise, String sentence) throws Exception {
+    if (!stands(sentence)) say("the document does not say: " + sentence);
+    TESTED.add(promise);
+  }
+
+  /** A new object behind these calls; their answers are looked at where they are told. */
+  static WholePacks after(String calls) throws Exception {
+    WholePacks made = new WholePacks();
+    for (String call : calls.split("\\|")) {
+      if (call.isBlank()) continue;
+      String[] sides = call.split(" = ");
+      long got = ask(made, sides[0]);
+      if (sides.length > 1 && got != told(sides[1].trim())) say(call.trim() + ": answered " + got);
+    }
+    return made;
+  }
+
+  static void must(boolean so, String what) {
+    if (!so) say(what);
+  }
+
   /** One run for a promise as a whole. */
   static void run(int promise, String calls) throws Exception {
     run(promise, "", calls);
@@ -126,7 +148,7 @@ final class Runs {
   /** Each of these promises must have had a run; ends with exit code 1, if something was wrong. */
   static void end(String name, int first, int last) {
     for (int p = first; p <= last; p++) if (!TESTED.contains(p)) say("promise " + p + " has no test");
-    System.out.println(name + ": " + runs + " runs, " + (wrong == 0 ? "all answers are as due" : wrong + " are not as due"));
+    System.out.println(name + ": " + (runs > 0 ? runs + " runs, " : "") + (wrong == 0 ? "all answers are as due" : wrong + " are not as due"));
     if (wrong != 0) System.exit(1);
   }
 
